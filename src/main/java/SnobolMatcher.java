@@ -31,8 +31,9 @@ public final class SnobolMatcher {
     private static final int PRODUCE = 1;
     private static final int BACKTRACK = 2;
 
-    // A start begins at most 250 elements, so it has at most some 500 outcomes that are followed
-    // by a begun element or skipped by an ARBNO, and each passes at most 250 elements on its way.
+    // Far above what a start can need. It begins at most 250 elements and goes back at most 17 times
+    // to each. An outcome is followed by a begun element, skipped by an ARBNO or the root's, so there
+    // are some 500 of them, and each passes at most 250 elements on its way.
     private static final int MOST_TURNS = 1000000;
 
     private final int maxSubject;
@@ -443,13 +444,13 @@ public final class SnobolMatcher {
         }
     }
 
-    private boolean charWithin(int i, int least, int greatest) {
-        return i < subjectLength && subject[i] >= least && subject[i] <= greatest;
+    private boolean charWithin(int cursor, int least, int greatest) {
+        return cursor < subjectLength && subject[cursor] >= least && subject[cursor] <= greatest;
     }
 
     private int spanEnd(int a, int b, int cursor) {
         int end = cursor;
-        while (end < subjectLength && charWithin(end, a, b)) {
+        while (end < subjectLength && subject[end] >= a && subject[end] <= b) {
             end++;
         }
         return end > cursor ? end : NONE;
@@ -457,7 +458,7 @@ public final class SnobolMatcher {
 
     private int breakEnd(int a, int b, int cursor) {
         for (int i = cursor; i < subjectLength; i++) {
-            if (charWithin(i, a, b)) {
+            if (subject[i] >= a && subject[i] <= b) {
                 return i;
             }
         }

@@ -364,6 +364,7 @@ public final class BuildTest {
         String vars = Check.vars(m);
         Check.due("addSubjectChar(0)", m.addSubjectChar(0), 4);
         Check.due("addSubjectChar(65535)", m.addSubjectChar(65535), 5);
+        Check.due("subjectChar(0)", m.subjectChar(0), 'a');
         Check.due("subjectChar(2)", m.subjectChar(2), 'c');
         Check.due("subjectChar(3)", m.subjectChar(3), 0);
         Check.due("subjectChar(4)", m.subjectChar(4), 65535);

@@ -329,6 +329,7 @@ public final class MatchTest {
         cat();
         fails("only the first outcome", true);
         matches("but every start", false, 1, 2);
+        vars("a fence writes nothing", 0, "");
         begin("ab");
         lit('a');
         empty();
@@ -459,6 +460,16 @@ public final class MatchTest {
         Check.subject(m, "xyz");
         fails("a failure", true);
         vars("a failure", 2, "");
+        begin("abc");
+        lit('a');
+        cond(0);
+        empty();
+        alt();
+        wrap(SnobolMatcher.K_FENCE);
+        lit('c');
+        cat();
+        matches("the list of an earlier start is lost", false, 2, 3);
+        vars("the list of an earlier start is lost", 0, "");
     }
 
     private static void defer() {
