@@ -314,25 +314,23 @@ final class Model {
         };
     }
 
-    int status(int item) {
-        int[] items = {result, start, end, nodes.size(), stack.size(), subject.length()};
-        return in(item, 0, 5) ? items[item] : -1;
+    int stackDepth() {
+        return stack.size();
     }
 
     /** What Check.state tells of a matcher in the same state. */
     String state() {
-        StringBuilder s = new StringBuilder("status");
-        for (int item = -1; item <= 6; item++) s.append(' ').append(status(item));
-        s.append("\nroots");
-        for (int v = -1; v <= 4; v++) s.append(' ').append(in(v, 0, 3) ? roots[v] : -1);
-        s.append("\nstack");
-        for (int k = -1; k <= 16; k++) s.append(' ').append(in(k, 0, stack.size() - 1) ? stack.get(k) : -1);
-        s.append("\nsubject");
-        for (int i = -1; i <= 16; i++) s.append(' ').append(charOf(subject, i));
-        s.append("\nnodes");
+        StringBuilder s = new StringBuilder("results " + result + ' ' + start + ' ' + end + " -1 -1");
+        s.append("\nnodes ").append(nodes.size()).append(':');
         for (int i = -1; i <= 32; i++) {
             for (int f = -1; f <= 5; f++) s.append(' ').append(field(i, f));
         }
+        s.append("\nstack ").append(stack.size()).append(':');
+        for (int k = -1; k <= 16; k++) s.append(' ').append(in(k, 0, stack.size() - 1) ? stack.get(k) : -1);
+        s.append("\nroots");
+        for (int v = -1; v <= 4; v++) s.append(' ').append(in(v, 0, 3) ? roots[v] : -1);
+        s.append("\nsubject ").append(subject.length()).append(':');
+        for (int i = -1; i <= 16; i++) s.append(' ').append(charOf(subject, i));
         s.append("\nvars");
         for (int v = -1; v <= 8; v++) {
             boolean known = in(v, 0, 7);
